@@ -834,7 +834,6 @@ public final class WhaleTown {
                 int chance = town.chance(sleep, noise);
                 long ways = waysTo(sleep);
                 Rows.putLong(stayed, sleep, ways * (4 - chance));
-                Rows.putLong(came, sleep, 0);
                 if (sleep == STIRRING) {
                     turned += ways * chance;
                 } else {

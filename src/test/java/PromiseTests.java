@@ -165,6 +165,40 @@ public final class PromiseTests {
         due("board without l, k", z.board(0, 0), 3);
         dueShare("board without l", z.board(0, 1), z.board(0, 2), 15, 16);
         due("no works, no houses", z.count(1) + z.count(2) + z.count(3), 0);
+        relaid();
+    }
+
+    /** Nothing of what was laid before is left, and nothing of a text that is not laid comes in. */
+    private static void relaid() {
+        WhaleTown x = new WhaleTown();
+        for (int i = 0; i < 3; i++) {
+            x.wipe();
+            write(x, "s1,2,3,4;a4,4,4;l1,9;h9,9;b9;w2,2;");
+            due("lay()", x.lay(), 1);
+            due("board of l1,9, k", x.board(0, 0), 3);
+            dueShare("board of l1,9", x.board(0, 1), x.board(0, 2), 1, 1);
+            due("people", x.count(8), 9);
+            x.wipe();
+            write(x, "a4,4,4;s3,0,0,0;b0;");
+            due("lay() of a fault", x.lay(), NO);
+            due("fault()", x.fault(), 16);
+            due("the sign that is laid", x.sign(0, 0), 1);
+            dueCounts("what is laid", x, 1, 1, 1, 1);
+            x.wipe();
+            write(x, "a4,4,4;s3,0,0,0;");
+            due("lay()", x.lay(), 1);
+            // 15, 10, 5, 60: it turns on day 3.
+            due("board without l, k", x.board(0, 0), 2);
+            dueShare("board without l", x.board(0, 1), x.board(0, 2), 5, 1);
+            dueCounts("what is laid", x, 1, 0, 0, 0);
+        }
+        x.wipe();
+        write(x, "s0,0,0,0;s0,0,0,0;");
+        x.lay();
+        x.day(0, 0);
+        x.day(0, 0);
+        x.day(0, 0);
+        dueShare("belief without a", x.belief(0, 0), x.belief(0, 1), 3, 7);
     }
 
     private static void promise06Sign() {
@@ -349,6 +383,15 @@ public final class PromiseTests {
         dueShare("near(1), stirring", x.near(1, 0, 0), x.near(1, 0, 1), 1, 4);
         dueShare("near(2), stirring", x.near(2, 0, 0), x.near(2, 0, 1), 7, 16);
         dueShare("near(3), stirring", x.near(3, 0, 0), x.near(3, 0, 1), 37, 64);
+        // It did not turn on a day on which it might have.
+        WhaleTown y = laid("a4,4,2;s0,0,0,1;l5,9;");
+        for (int d = 0; d < 3; d++) {
+            y.day(0, 0);
+        }
+        dueShare("near(1), it might have turned", y.near(1, 0, 0), y.near(1, 0, 1), 1, 2);
+        dueShare("near(2), it might have turned", y.near(2, 0, 0), y.near(2, 0, 1), 3, 4);
+        // 27, 20, 12, 4 by 7/8.
+        dueShare("board, it might have turned", y.board(0, 1), y.board(0, 2), 35, 8);
         due("near(0)", x.near(0, 0, 0), BAD);
         due("near(4)", x.near(4, 0, 0), BAD);
         due("near works 8", x.near(1, 8, 0), BAD);
@@ -512,6 +555,7 @@ public final class PromiseTests {
     private static void promise18Crews() {
         dueCrews("h4,10;h3,25;h6,5;h2,40;b8;b5;b9;", 5, 0, 0, 2, 2);
         dueCrews("h4,1;b3;b5;b4;", 2, 1);
+        dueCrews("h4,1;h5,1;b9;b5;b30;", 1, 0, 0);
         dueCrews("h4,1;h4,1;b4;b4;b8;", 4, 2, 2);
         dueCrews("h4,1;h4,1;b7;b7;b7;", 3, 0, 1);
         dueCrews("h1,1;h9,1;h1,1;h9,1;b10;b10;", 3, 0, 0, 1, 1);
@@ -598,6 +642,12 @@ public final class PromiseTests {
         due("goes round, though 0 has none ahead", x.first(), 0);
         due("of one sign", laid("s0,1,1,1;").first(), 1);
         due("of three signs", laid("s0,1,1,1;s0,1,1,1;s0,1,1,1;").first(), 7);
+        x.forget();
+        x.ahead(3, 0);
+        due("3 ahead of 0", x.first(), 14);
+        x.ahead(3, 2);
+        x.ahead(3, 1);
+        due("3 ahead of all", x.first(), 8);
     }
 
     private static void promise23Orders() {
