@@ -1,55 +1,10 @@
 /** For each promise of the document: ordinary inputs, the edges that it names, wrong inputs. Answers reckoned by hand. */
-public final class PromiseTests {
-    private static final int BAD = WhaleTown.BAD, NO = WhaleTown.NO, FULL = WhaleTown.FULL, NONE = WhaleTown.NONE;
-    private static final String FIRST =
-            "a1,2,1;s0,1,2,3;s1,0,2,4;s2,4,3,1;s3,2,2,2;h4,10;h3,25;h6,5;h2,40;b8;b5;b9;w1,6;w0,2;w2,9;l60,5;";
-
-    private static int wrong = 0;
-
-    private static void due(String call, long got, long want) {
-        if (got != want) {
-            wrong++;
-            System.out.println(call + " answered " + got + ", due is " + want);
-        }
-    }
-
-    private static void write(WhaleTown x, String text) {
-        for (int i = 0; i < text.length(); i++) {
-            due("write of " + text.charAt(i) + " in " + text, x.write(text.charAt(i)), i + 1);
-        }
-    }
-
-    /** A new object with this text laid. */
-    private static WhaleTown laid(String text) {
-        WhaleTown x = new WhaleTown();
-        write(x, text);
-        int signs = text.length() - text.replace("s", "").length();
-        due("lay() of " + text, x.lay(), signs);
-        return x;
-    }
-
-    private static int faultOf(String text) {
-        WhaleTown x = new WhaleTown();
-        write(x, text);
-        return x.fault();
-    }
-
-    private static void dueShare(String name, long above, long below, long wantAbove, long wantBelow) {
-        due(name + " above", above, wantAbove);
-        due(name + " below", below, wantBelow);
-    }
-
-    private static void dueCounts(String name, WhaleTown x, int... counts) {
-        for (int what = 0; what < counts.length; what++) {
-            due(name + " count(" + what + ")", x.count(what), counts[what]);
-        }
-    }
-
+public final class PromiseTests extends Due {
     private static void promise01NewObject() {
-        due("BAD", BAD, -1);
-        due("NO", NO, -2);
-        due("FULL", FULL, -3);
-        due("NONE", NONE, -4);
+        due("BAD", WhaleTown.BAD, -1);
+        due("NO", WhaleTown.NO, -2);
+        due("FULL", WhaleTown.FULL, -3);
+        due("NONE", WhaleTown.NONE, -4);
         dueCounts("new", new WhaleTown(), 4, 4, 3, 3, 0, 0, 0, 0, 15);
         WhaleTown x = new WhaleTown();
         int[][] signs = {{0, 1, 2, 3}, {1, 0, 2, 4}, {2, 4, 3, 1}, {3, 2, 2, 2}};
@@ -836,9 +791,6 @@ public final class PromiseTests {
         promise26Keep();
         promise27Back();
         promise28Count();
-        System.out.println(wrong == 0 ? "all answers are as due" : wrong + " answers are not as due");
-        if (wrong != 0) {
-            System.exit(1);
-        }
+        end();
     }
 }
