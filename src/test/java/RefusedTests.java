@@ -11,7 +11,7 @@ import java.util.function.ToLongFunction;
 public final class RefusedTests extends Due {
     /** 199 letters, so that one more, which is a fault, makes it full. */
     private static final String FULL_TEXT = "a3,2,1;l1,1;l1,1;l77,8;" + "h9,60;".repeat(3) + "h1,0;h2,5;h3,9;"
-            + "s0,1,2,3;s1,3,2,1;s2,2,2,3;s3,2,3,4;" + "b15;b5;b9;b7;" + "w1,9;w0,2;w3,20;w2,5;w4,11;" + "l1,1;".repeat(11) + "l02,02;l9,1;";
+            + "s0,1,2,3;s1,3,2,1;s2,2,2,3;s3,2,3,4;" + "b15;b5;b9;b9;" + "w1,9;w0,2;w3,20;w2,5;w4,11;" + "l1,1;".repeat(11) + "l02,02;l9,1;";
 
     /** A town, and how many of each thing it has. */
     private record Town(String name, int signs, int houses, int works, int days, Supplier<WhaleTown> make) {

@@ -660,6 +660,28 @@ public final class SleepEdgeTests extends Due {
         dueBoard("it never TURNS", never, 0, 3, 0, 1);
     }
 
+    private static void greatestNumbers() {
+        sentence("board, near, quiet: of five DAYS, four SIGNS, V 99 and E 9: no number is too great");
+        int[] seen = {15, 15, 15, 15, 15};
+        WhaleTown never = with("a4,4,0;" + SURE.repeat(4) + "w4,1;w3,1;l99,9;", seen);
+        // 27, 117 and on; by 3 of four: 27, 18 and 99 by 3/4, ..
+        dueBoard("surely", never, 1, 0, 27, 1);
+        dueBoard("by 3 of four", never, 2, 0, 27, 1);
+        dueBoard("never", never, 0, 3, 0, 1);
+        dueNear(never, 3, 2, 63, 64);
+        dueQuiet("by 3 of four", never, 98, 0, 0);
+        dueQuiet("by 3 of four", never, 99, 2, 1);
+        WhaleTown dear = with("a4,4,0;" + SURE.repeat(4) + "w4,1;l99,0;", seen);
+        dueBoard("the boats cost nothing", dear, 1, 0, 0, 1);
+        WhaleTown cheap = with("a4,4,0;" + SURE.repeat(4) + "w4,1;w3,1;l26,9;", seen);
+        dueBoard("surely, V is 26", cheap, 1, 3, 26, 1);
+        // 27, 18 and 26 by 3/4 is 37.5, .., 26 by 63/64.
+        dueBoard("by 3 of four, V is 26", cheap, 2, 3, 819, 32);
+        WhaleTown late = with("a4,0,4;" + SURE.repeat(4) + "w4,1;w3,1;l99,9;", seen);
+        dueBoard("LIGHT, surely in two", late, 1, 1, 18, 1);
+        dueSight(late, 3, 2, 1, 1);
+    }
+
     // ---- 16
 
     private static void ofAHundred() {
@@ -852,6 +874,7 @@ public final class SleepEdgeTests extends Due {
         boardByWorks();
         boardOfSeveralTheFirst();
         costsFromEndToEnd();
+        greatestNumbers();
         ofAHundred();
         noMoreThanThat();
         exactlyThat();

@@ -448,6 +448,46 @@ public final class WhalesEdgeTests extends Due {
         due("ahead(3, 0), anew", x.ahead(3, 0), 1);
     }
 
+    /** A small town, laid behind the greatest one twice. */
+    private static WhaleTown laidBehindTheGreatest(String signs, String text) {
+        WhaleTown x = laid(signs.repeat(4) + "h9,0;".repeat(6) + "b30;".repeat(4) + "w4,20;".repeat(5) + "a4,4,4;l1,1;");
+        x.lay();
+        x.wipe();
+        write(x, text);
+        due("lay() of " + text, x.lay(), text.length() - text.replace("s", "").length());
+        return x;
+    }
+
+    private static void nothingIsLeftOfTheOldTown() {
+        sentence("lay: LAID is the TEXT alone: nothing is left of what was LAID ahead of it");
+        String[] olds = {DULL, "s0,4,4,4;", "s3,0,0,0;"};
+        for (String old : olds) {
+            WhaleTown x = laidBehindTheGreatest(old, "s0,1,1,1;b5;w0,3;");
+            dueCounts("laid", x, 1, 0, 1, 1, 0, 0, 0, 17, 0);
+            due("tells(0)", x.tells(0), 0);
+            due("sign(1, 0)", x.sign(1, 0), BAD);
+            due("saved(99), no houses", x.saved(99), 0);
+            due("crews(-1), no houses", x.crews(-1), NONE);
+            due("quiet(100, 0)", x.quiet(100, 0), 1);
+            due("quiet(100, 1)", x.quiet(100, 1), 3);
+            dueShare("near(3, 1)", x.near(3, 1, 0), x.near(3, 1, 1), 1, 64);
+            dueShare("board(0)", x.board(0, 1), x.board(0, 2), 15, 16);
+            due("first()", x.first(), 1);
+            due("day(0, 0)", x.day(0, 0), 1);
+            dueShare("belief(0)", x.belief(0, 0), x.belief(0, 1), 3, 4);
+            WhaleTown y = laidBehindTheGreatest(old, DULL + "h9,0;h8,1;b8;b8;");
+            due("saved(0)", y.saved(0), 9);
+            due("saved(99)", y.saved(99), 16);
+            due("count(8)", y.count(8), 17);
+            due("crews(-1)", y.crews(-1), NONE);
+            WhaleTown z = laidBehindTheGreatest(old, DULL + "h9,0;");
+            due("saved(0), no boats", z.saved(0), 0);
+            due("crews(0), no boats", z.crews(0), NONE);
+            due("works(0, 1)", z.works(0, 1), 0);
+            due("works(1, 1)", z.works(1, 1), BAD);
+        }
+    }
+
     private static void layTheLongest() {
         sentence("A TEXT is letters (200 at most), with as many ITEMS of each kind as can be");
         String text = "a0,0,0;".repeat(8) + "l0,0;" + "h9,60;".repeat(6) + "s3,4,4,4;".repeat(4) + "b30;".repeat(4) + "w4,20;".repeat(5)
@@ -637,6 +677,7 @@ public final class WhalesEdgeTests extends Due {
         layWithoutASign();
         layTellsHowManySigns();
         layEmptiesAll();
+        nothingIsLeftOfTheOldTown();
         layTheLongest();
         sleepsWithout();
         costsWithout();
