@@ -342,6 +342,30 @@ public final class DiaryEdgeTests extends Due {
         due("more than have room", laid(DULL + "h9,10;b1;").count(8), 9);
     }
 
+    // ---- how often it is asked
+
+    private static void fiveHundredAndTwelveCalls() {
+        sentence("An object is used for at most 512 calls: the last ones as the first ones");
+        WhaleTown x = new WhaleTown();
+        for (int i = 0; i < 100; i++) {
+            due("day, round " + i, x.day(15, 7), 1);
+            due("keep, round " + i, x.keep(), 1);
+            due("undo, round " + i, x.undo(), 0);
+            due("back, round " + i, x.back(), 0);
+            due("undo, again, round " + i, x.undo(), 0);
+        }
+        for (int i = 0; i < 5; i++) {
+            due("day " + i, x.day(i, 0), i + 1);
+        }
+        due("ahead(3, 0)", x.ahead(3, 0), 1);
+        due("write", x.write('b'), 1);
+        due("keep()", x.keep(), 1);
+        due("first()", x.first(), 14);
+        due("fault()", x.fault(), 0);
+        due("day, full", x.day(0, 0), FULL);
+        due("crews(-1), call 512", x.crews(-1), 5);
+    }
+
     public static void main(String[] args) {
         signsSeen();
         worksThatWentOn();
@@ -365,6 +389,7 @@ public final class DiaryEdgeTests extends Due {
         countOfTheLeast();
         countOfTheMost();
         countOfPeople();
+        fiveHundredAndTwelveCalls();
         end();
     }
 }
